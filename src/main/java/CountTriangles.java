@@ -821,7 +821,8 @@ public final class CountTriangles {
             for (int i = 0; i < j; i++) {
                 rest &= rest - 1;
             }
-            return Integer.numberOfTrailingZeros(rest);
+            // As many digits are lesser as bits are below the lowest one that is left.
+            return Integer.bitCount((rest & -rest) - 1);
         }
 
         int markOf(int n, int order, int mark) {
@@ -1113,8 +1114,10 @@ public final class CountTriangles {
 
         private static int withEnd(int word, int end) {
             int filled = word | end;
-            int greater = Integer.lowestOneBit(word & -(end << 1));
-            if (greater == Integer.highestOneBit(word)) {
+            int above = word & -(end << 1);
+            int greater = above & -above;
+            if (greater > word >>> 1) {
+                // Only the leading 1 is above: no END is greater.
                 return filled;
             }
             // The greater END goes, and what is above it moves down.
