@@ -150,11 +150,12 @@ public final class CountTriangles {
         if (!within(n, 1, THINGS) || !within(k, 1, THINGS) || i < -1) {
             return BAD;
         }
-        int all = partings.howMany(n, k);
+        partings.want(k);
+        int all = partings.howMany(n);
         if (i == -1) {
             return all;
         }
-        return i < all ? partings.ith(n, k, i) : NONE;
+        return i < all ? partings.ith(n, i) : NONE;
     }
 
     public int partRank(int n, int row) {
@@ -162,7 +163,11 @@ public final class CountTriangles {
             return BAD;
         }
         int parts = partings.partsOf(n, row);
-        return parts == 0 ? BAD : partings.rankOf(n, row, parts);
+        if (parts == 0) {
+            return BAD;
+        }
+        partings.want(parts);
+        return partings.rankOf(n, row);
     }
 
     public int orders(int n, int mark, int v, int i) {
@@ -690,14 +695,10 @@ public final class CountTriangles {
         // By digits left and parts begun: the ways to end with the parts wanted.
         private final int[] ways = new int[WIDE * WIDE];
 
-        int howMany(int n, int k) {
-            fillWays(k);
-            return waysFrom(n, 0);
-        }
-
-        private void fillWays(int wanted) {
+        /** From now on, only those into k parts. */
+        void want(int k) {
             for (int parts = 0; parts < WIDE; parts++) {
-                ways[parts] = parts == wanted ? 1 : 0;
+                ways[parts] = parts == k ? 1 : 0;
             }
             for (int left = 1; left < WIDE; left++) {
                 for (int parts = 0; parts < WIDE; parts++) {
@@ -711,9 +712,12 @@ public final class CountTriangles {
             return within(left, 0, THINGS) && within(parts, 0, THINGS) ? ways[left * WIDE + parts] : 0;
         }
 
-        /** The i-th of those into k parts; i is less than how many there are. */
-        int ith(int n, int k, int i) {
-            fillWays(k);
+        int howMany(int n) {
+            return waysFrom(n, 0);
+        }
+
+        /** The i-th; i is less than how many there are. */
+        int ith(int n, int i) {
             int row = 0;
             int parts = 0;
             int ahead = i;
@@ -743,8 +747,7 @@ public final class CountTriangles {
             return parts;
         }
 
-        int rankOf(int n, int row, int wanted) {
-            fillWays(wanted);
+        int rankOf(int n, int row) {
             int ahead = 0;
             int parts = 0;
             for (int place = 0; place < n; place++) {
