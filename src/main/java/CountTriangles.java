@@ -433,7 +433,7 @@ public final class CountTriangles {
         static final long MOST = 100_000_000_000_000_000L;
         static final long MOST_SQUARED = 100_000_000L;
         // No number that is not TOO GREAT comes near it.
-        static final long TOO_GREAT = Long.MIN_VALUE;
+        static final long TOO_GREAT = -9_000_000_000_000_000_000L;
 
         private final int[] left = new int[3];
         private final int[] above = new int[3];

@@ -6,6 +6,7 @@ final class Due {
 
     private static int asked = 0;
     private static int wrong = 0;
+    private static String sentence = "";
 
     private Due() {
     }
@@ -15,9 +16,20 @@ final class Due {
         if (got != want) {
             wrong++;
             if (wrong <= 50) {
-                System.out.println(what + " answered " + got + ", due is " + want);
+                System.out.println(sentence + what + " answered " + got + ", due is " + want);
             }
         }
+    }
+
+    /** What follows holds the class to this sentence, which must stand in the document word by word. */
+    static void sentence(String words) {
+        sentence = "";
+        due("the document says \"" + words + "\"", Doc.says(words));
+        sentence = "\"" + words + "\": ";
+    }
+
+    static int asked() {
+        return asked;
     }
 
     static void due(String what, boolean holds) {

@@ -12,7 +12,7 @@ public final class LanguageTest {
         "\\bsynchronized\\b", "\\bassert\\b", "\\bvar\\b", "static \\{", "\\bdouble\\b", "\\bfloat\\b",
         "\\bSystem\\.(?!arraycopy\\b)", "\\bThread\\b", "Exact\\(", "\\bObject\\b", "\\bwhile\\b", "\\bRandom\\b",
         "\\bMath\\.(?!(abs|max|min|floorMod)\\()", "\\bInteger\\.(?!bitCount\\()",
-        "\\bLong\\.(?!MIN_VALUE\\b)", "\\bArrays\\.(?!fill\\()",
+        "\\bLong\\.", "\\bArrays\\.(?!fill\\()",
     };
     private static final int LONGEST_METHOD = 60;
 

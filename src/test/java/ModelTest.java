@@ -4,6 +4,8 @@ import java.util.Random;
 public final class ModelTest {
     private static final int RUNS = 1500;
     private static final int CALLS = 250;
+    // One round writes 70 times at most, and an object answers for 512 calls.
+    private static final int MOST_BEFORE_A_ROUND = 512 - 75;
     private static final int[] FAR = {
         Integer.MIN_VALUE, Integer.MIN_VALUE + 1, -1_000_000_007, -65536, 65536, 1 << 28,
         1_000_000_007, Integer.MAX_VALUE - 1, Integer.MAX_VALUE,
@@ -25,7 +27,8 @@ public final class ModelTest {
     public static void main(String[] args) {
         for (int run = 0; run < RUNS; run++) {
             ModelTest test = new ModelTest(run);
-            for (int call = 0; call < CALLS; call++) {
+            int before = Due.asked();
+            for (int call = 0; call < CALLS && Due.asked() - before < MOST_BEFORE_A_ROUND; call++) {
                 test.call(run % 3 == 0 ? test.chance.nextInt(27) : test.group(run % 3));
             }
         }

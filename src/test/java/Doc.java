@@ -1,0 +1,34 @@
+import java.io.IOException;
+import java.io.UncheckedIOException;
+import java.nio.file.Files;
+import java.nio.file.Path;
+
+/** The document, so that a test can say which of its sentences it holds the class to. */
+final class Doc {
+    private static final Path FILE = Path.of("../shared/DOC.md");
+    private static final String WORDS = read();
+
+    private Doc() {
+    }
+
+    private static String read() {
+        if (!Files.exists(FILE)) {
+            System.out.println(FILE + " is not here: quoted sentences are not looked up");
+            return null;
+        }
+        try {
+            return flat(Files.readString(FILE));
+        } catch (IOException unread) {
+            throw new UncheckedIOException(unread);
+        }
+    }
+
+    private static String flat(String words) {
+        return words.replaceAll("\\s+", " ");
+    }
+
+    /** Whether the sentence stands there; without the document the class can still be held to it. */
+    static boolean says(String sentence) {
+        return WORDS == null || WORDS.contains(flat(sentence));
+    }
+}
