@@ -21,6 +21,9 @@ public final class CountedTest {
     }
 
     private static void parting() {
+        Due.promise(13, "parting",
+                "`int parting(int n, int k, int i)`: PARTINGS into k (1 to 8) parts: how many (i ="
+                        + " -1), the i-th. NONE; BAD.");
         int[][] bad = {
             {0, 1, 0}, {9, 1, 0}, {3, 0, 0}, {3, 9, 0}, {3, 2, -2}, {0, 0, -1}, {9, 9, -1},
             {LEAST, 1, 0}, {MOST, 1, 0}, {3, LEAST, 0}, {3, MOST, -1}, {3, 2, LEAST},
@@ -48,6 +51,7 @@ public final class CountedTest {
     }
 
     private static void partRank() {
+        Due.promise(14, "partRank", "`int partRank(int n, int row)`: RANK of a PARTING. BAD (it is none, too).");
         for (int n : new int[] {0, 9, -1, LEAST, MOST}) {
             Due.due("14: n " + n, X.partRank(n, 0), Due.BAD);
         }
@@ -68,6 +72,9 @@ public final class CountedTest {
     }
 
     private static void orders() {
+        Due.promise(15, "orders",
+                "`int orders(int n, int mark, int v, int i)`: ORDERS with a MARK (0 to 4) of v (0 to"
+                        + " 28): how many (i = -1), the i-th. NONE; BAD.");
         int[][] bad = {
             {0, 0, 1, 0}, {9, 0, 1, 0}, {4, -1, 1, 0}, {4, 5, 1, 0}, {4, 0, -1, 0}, {4, 0, 29, 0}, {4, 0, 1, -2},
             {LEAST, 0, 1, 0}, {MOST, 0, 1, 0}, {4, MOST, 1, 0}, {4, LEAST, 1, 0}, {4, 0, MOST, 0}, {4, 0, LEAST, 0},
@@ -103,6 +110,7 @@ public final class CountedTest {
     }
 
     private static void mark() {
+        Due.promise(16, "mark", "`int mark(int n, int order, int mark)`: A MARK of an order. BAD.");
         int order = Due.row("31420576");
         // 3 4 .. 0 3 2 4 0: rings (0 3 2 4), (1), (5), (6 7).
         Due.due("16: rings", X.mark(8, order, 0), 4);
@@ -125,6 +133,7 @@ public final class CountedTest {
     }
 
     private static void rank() {
+        Due.promise(17, "rank", "`int rank(int n, int order)`: RANK of an order. BAD.");
         String[] three = {"012", "021", "102", "120", "201", "210"};
         for (int i = 0; i < 6; i++) {
             Due.due("17: of 3", X.rank(3, Due.row(three[i])), i);
@@ -135,6 +144,7 @@ public final class CountedTest {
     }
 
     private static void over() {
+        Due.promise(18, "over", "`int over(int n, int order)`: TURNED OVER. BAD.");
         Due.due("18: a ring of 3", X.over(3, Due.row("120")), Due.row("201"));
         Due.due("18: of 8", X.over(8, Due.row("31420576")), Due.row("41302576"));
         Due.due("18: falling", X.over(8, DOWN), DOWN);
@@ -142,6 +152,7 @@ public final class CountedTest {
     }
 
     private static void behind() {
+        Due.promise(19, "behind", "`int behind(int n, int a, int b)`: BEHIND: a behind b. BAD.");
         Due.due("19: a behind b", X.behind(3, Due.row("102"), Due.row("120")), Due.row("021"));
         Due.due("19: b behind a", X.behind(3, Due.row("120"), Due.row("102")), Due.row("210"));
         Due.due("19: behind the first", X.behind(8, Due.row("31420576"), UP), Due.row("31420576"));

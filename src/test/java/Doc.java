@@ -14,7 +14,7 @@ final class Doc {
     private static String read() {
         if (!Files.exists(FILE)) {
             System.out.println(FILE + " is not here: quoted sentences are not looked up");
-            return null;
+            return "";
         }
         try {
             return flat(Files.readString(FILE));
@@ -27,8 +27,17 @@ final class Doc {
         return words.replaceAll("\\s+", " ");
     }
 
+    static boolean isHere() {
+        return !WORDS.isEmpty();
+    }
+
+    /** All of it, with one blank for each gap. */
+    static String words() {
+        return WORDS;
+    }
+
     /** Whether the sentence stands there; without the document the class can still be held to it. */
     static boolean says(String sentence) {
-        return WORDS == null || WORDS.contains(flat(sentence));
+        return !isHere() || WORDS.contains(flat(sentence));
     }
 }

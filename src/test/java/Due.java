@@ -28,6 +28,13 @@ final class Due {
         sentence = "\"" + words + "\": ";
     }
 
+    /** What follows holds the class to this promise, which must stand in the document word by word. */
+    static void promise(int number, String name, String words) {
+        sentence = "";
+        due("the document's promise " + number, Doc.says("## Promise " + number + ": " + name + " " + words));
+        sentence = "Promise ";
+    }
+
     static int asked() {
         return asked;
     }

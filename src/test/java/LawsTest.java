@@ -26,6 +26,7 @@ public final class LawsTest {
     }
 
     private static void newObject() {
+        Due.promise(1, "A new object", "`CountTriangles()`: LAWS without ITEMS, POLYNOMIALS of 0.");
         CountTriangles x = new CountTriangles();
         for (int l = 0; l < 4; l++) {
             Due.due("1: top", x.number(l, 0, 0), 1);
@@ -46,6 +47,9 @@ public final class LawsTest {
     }
 
     private static void write() {
+        Due.promise(2, "write",
+                "`int write(int n, long v)`: n bytes (1 to 8) of v, the highest first, come behind"
+                        + " THE TEXT: how long it is. BAD; FULL.");
         CountTriangles x = new CountTriangles();
         for (int n : new int[] {0, 9, -1, LEAST, MOST}) {
             Due.due("2: write " + n, x.write(n, 0x61), Due.BAD);
@@ -73,6 +77,7 @@ public final class LawsTest {
     }
 
     private static void wipe() {
+        Due.promise(3, "wipe", "`int wipe()`: THE TEXT is empty: how long it was.");
         CountTriangles x = new CountTriangles();
         Due.due("3: empty", x.wipe(), 0);
         Due.append(x, "s1;s");
@@ -92,6 +97,7 @@ public final class LawsTest {
     }
 
     private static void fault() {
+        Due.promise(4, "fault", "`int fault()`: FAULT. NONE.");
         String[] good = {"", "s0;", "s-9;", "a0,0,0;", "b-1,-2,-3;", "s1;s2;s3;", "a9,-9,9;b0,1,2;s7;a1,1,1;"};
         for (String signs : good) {
             faultOf(signs, Due.NONE);
@@ -122,6 +128,7 @@ public final class LawsTest {
     }
 
     private static void lay() {
+        Due.promise(5, "lay", "`int lay(int l)`: LAID as LAW l: how many ITEMS. BAD; NO: a FAULT.");
         CountTriangles x = Due.withLaw(CHOICES);
         for (int l : new int[] {-1, 4, LEAST, MOST}) {
             Due.due("5: lay " + l, x.lay(l), Due.BAD);
@@ -152,6 +159,7 @@ public final class LawsTest {
     }
 
     private static void number() {
+        Due.promise(6, "number", "`long number(int l, int n, int k)`: T(n, k) of LAW l. NO: TOO GREAT; BAD.");
         CountTriangles x = Due.withLaw(CHOICES);
         int[][] bad = {
             {-1, 0, 0}, {4, 0, 0}, {0, -1, 0}, {0, 25, 0}, {0, 3, -1}, {0, 3, 4}, {0, 0, 1},
@@ -217,6 +225,9 @@ public final class LawsTest {
     }
 
     private static void sum() {
+        Due.promise(7, "sum",
+                "`long sum(int l, int n, int what)`: Of row n: ALL (what = 0), SIGNS (1), SLANT (2),"
+                        + " SQUARES (3). NO; BAD.");
         CountTriangles x = Due.withLaw(CHOICES);
         int[][] bad = {
             {-1, 3, 0}, {4, 3, 0}, {0, -1, 0}, {0, 25, 0}, {0, 3, -1}, {0, 3, 4},
@@ -270,6 +281,9 @@ public final class LawsTest {
     }
 
     private static void shape() {
+        Due.promise(8, "shape",
+                "`int shape(int l, int n, int what)`: Of row n: GREATEST (what = 0), BREAK (1), BOWED"
+                        + " (2). NONE; NO; BAD.");
         CountTriangles x = Due.withLaw(CHOICES);
         int[][] bad = {
             {-1, 3, 0}, {4, 3, 0}, {0, -1, 0}, {0, 25, 0}, {0, 3, -1}, {0, 3, 3},
@@ -342,6 +356,7 @@ public final class LawsTest {
     }
 
     private static void rest() {
+        Due.promise(9, "rest", "`int rest(int l, int n, int k, int m)`: RESTS. BAD.");
         CountTriangles x = Due.withLaw(CHOICES);
         int[][] bad = {
             {-1, 3, 0, 5}, {4, 3, 0, 5}, {0, -1, 0, 5}, {0, 61, 0, 5}, {0, 3, -1, 5}, {0, 3, 4, 5},
@@ -372,6 +387,7 @@ public final class LawsTest {
     }
 
     private static void times() {
+        Due.promise(10, "times", "`long times(int a, int b, int n, int k)`: A TIMES B at (n, k). NO; BAD.");
         CountTriangles x = Due.withLaw(CHOICES);
         Due.lay(x, 1, PARTS);
         int[][] bad = {
@@ -407,6 +423,7 @@ public final class LawsTest {
     }
 
     private static void undoes() {
+        Due.promise(11, "undoes", "`int undoes(int a, int b, int n)`: UNDOES. NONE; NO: TOO GREAT ahead of it; BAD.");
         CountTriangles x = Due.withLaw(CHOICES);
         Due.lay(x, 1, SIGNED_CHOICES);
         Due.lay(x, 2, PARTS);
@@ -447,6 +464,7 @@ public final class LawsTest {
     }
 
     private static void back() {
+        Due.promise(12, "back", "`long back(int a, int n, int k)`: BACK of A at (n, k). NO; BAD.");
         CountTriangles x = Due.withLaw(CHOICES);
         Due.lay(x, 1, PARTS);
         int[][] bad = {

@@ -7,6 +7,7 @@ public final class PolynomialsTest {
     public static void main(String[] args) {
         base();
         set();
+        coefficient();
         told();
         turn();
         turnNo();
@@ -25,6 +26,7 @@ public final class PolynomialsTest {
     }
 
     private static void base() {
+        Due.promise(20, "base", "`int base(int p, int base)`: POLYNOMIAL p is 0 in a BASE: what BASE it had. BAD.");
         CountTriangles x = new CountTriangles();
         for (int wrong : NO_SUCH) {
             Due.due("20: BAD", x.base(wrong, 1), Due.BAD);
@@ -43,14 +45,15 @@ public final class PolynomialsTest {
     }
 
     private static void set() {
+        Due.promise(21, "set",
+                "`long set(int p, int k, long v)`: A coefficient (0 to 8) of POLYNOMIAL p is v: what it was."
+                        + " BAD (v beyond 10 to the 6).");
         CountTriangles x = new CountTriangles();
         for (int wrong : NO_SUCH) {
             Due.due("21: BAD", x.set(wrong, 0, 1), Due.LONG_BAD);
-            Due.due("22: BAD", x.coefficient(wrong, 0), Due.LONG_BAD);
         }
         for (int wrong : new int[] {-1, 9, LEAST, MOST}) {
             Due.due("21: BAD", x.set(0, wrong, 1), Due.LONG_BAD);
-            Due.due("22: BAD", x.coefficient(0, wrong), Due.LONG_BAD);
         }
         for (long wrong : new long[] {1000001, -1000001, Long.MIN_VALUE, Long.MAX_VALUE, 1L << 32, -(1L << 32)}) {
             Due.due("21: BAD " + wrong, x.set(0, 3, wrong), Due.LONG_BAD);
@@ -59,14 +62,35 @@ public final class PolynomialsTest {
         Due.due("21: it was 0", x.set(0, 8, 1000000), 0);
         Due.due("21: it was 10 to the 6", x.set(0, 8, -1000000), 1000000);
         Due.due("21: it was less 10 to the 6", x.set(0, 8, 5), -1000000);
-        Due.due("22: now", x.coefficient(0, 8), 5);
-        Due.due("22: others", x.coefficient(0, 7), 0);
-        Due.due("22: of others", x.coefficient(1, 8), 0);
+        coefficients("21: it alone", x, 0, 0, 0, 0, 0, 0, 0, 0, 0, 5);
+        coefficients("21: not of others", x, 1);
         Due.due("21: the lowest", x.set(3, 0, 7), 0);
-        Due.due("22: the lowest", x.coefficient(3, 0), 7);
+        coefficients("21: the lowest", x, 3, 7);
+    }
+
+    private static void coefficient() {
+        Due.promise(22, "coefficient", "`long coefficient(int p, int k)`: A coefficient. BAD.");
+        CountTriangles x = new CountTriangles();
+        for (int wrong : NO_SUCH) {
+            Due.due("22: BAD", x.coefficient(wrong, 0), Due.LONG_BAD);
+        }
+        for (int wrong : new int[] {-1, 9, LEAST, MOST}) {
+            Due.due("22: BAD", x.coefficient(0, wrong), Due.LONG_BAD);
+        }
+        for (int p = 0; p < 4; p++) {
+            for (int k = 0; k <= 8; k++) {
+                x.set(p, k, 10 * p + k - 20);
+            }
+        }
+        for (int p = 0; p < 4; p++) {
+            for (int k = 0; k <= 8; k++) {
+                Due.due("22: " + k + " of " + p, x.coefficient(p, k), 10 * p + k - 20);
+            }
+        }
     }
 
     private static void told() {
+        Due.promise(23, "told", "`int told(int p, int what)`: BASE (what = 0), DEGREE (1; NONE). BAD.");
         CountTriangles x = new CountTriangles();
         for (int wrong : NO_SUCH) {
             Due.due("23: BAD", x.told(wrong, 0), Due.BAD);
@@ -87,6 +111,8 @@ public final class PolynomialsTest {
     }
 
     private static void turn() {
+        Due.promise(24, "turn",
+                "`int turn(int p, int base)`: TURNED into a BASE: its DEGREE (NONE: it is 0). NO; BAD.");
         CountTriangles x = new CountTriangles();
         for (int wrong : NO_SUCH) {
             Due.due("24: BAD", x.turn(wrong, 1), Due.BAD);
@@ -165,6 +191,7 @@ public final class PolynomialsTest {
     }
 
     private static void value() {
+        Due.promise(25, "value", "`long value(int p, int x, int j)`: DIFFERENCE j at x (j 0: VALUE). BAD.");
         CountTriangles x = new CountTriangles();
         for (int wrong : NO_SUCH) {
             Due.due("25: BAD", x.value(wrong, 0, 0), Due.LONG_BAD);
@@ -216,6 +243,7 @@ public final class PolynomialsTest {
     }
 
     private static void sumUp() {
+        Due.promise(26, "sumUp", "`int sumUp(int p)`: POLYNOMIAL p is SUMMED: its DEGREE (NONE: it is 0). NO; BAD.");
         CountTriangles x = new CountTriangles();
         for (int wrong : NO_SUCH) {
             Due.due("26: BAD", x.sumUp(wrong), Due.BAD);
@@ -270,6 +298,9 @@ public final class PolynomialsTest {
     }
 
     private static void root() {
+        Due.promise(27, "root",
+                "`int root(int p, int i)`: ROOTS: how many (i = -1), the i-th. NONE answers -1004,"
+                        + " BAD -1001.");
         CountTriangles x = new CountTriangles();
         for (int wrong : NO_SUCH) {
             Due.due("27: BAD", x.root(wrong, -1), -1001);
@@ -312,6 +343,9 @@ public final class PolynomialsTest {
     }
 
     private static void count() {
+        Due.promise(28, "count",
+                "`int count(int what)`: How many: 0 bytes of THE TEXT, 1 ITEMS of all LAWS, 2"
+                        + " coefficients other than 0. BAD.");
         CountTriangles x = new CountTriangles();
         for (int wrong : new int[] {-1, 3, LEAST, MOST}) {
             Due.due("28: BAD", x.count(wrong), Due.BAD);
